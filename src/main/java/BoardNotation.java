@@ -18,6 +18,8 @@ public final class BoardNotation {
     private static final int EDGE = 8;
     private static final int SQUARE_COUNT = 64;
     private static final int NODE_LIMIT = 200;
+    /** A walk takes three turns a node at most: its move is written, it is gone into, it is left. */
+    private static final int WALK_LIMIT = 4 * NODE_LIMIT;
     private static final int TAPE_LIMIT = 2000;
 
     private static final int BLANK = 32;
@@ -281,7 +283,16 @@ public final class BoardNotation {
         int stay = present;
         visit(0);
         draft.wipe();
-        writeTree();
+        int place = 0;
+        for (int turns = 0; turns < WALK_LIMIT && place != NONE; turns++) {
+            int child = tree.child(present, place);
+            if (child != NONE) {
+                writeOpening(place);
+                draft.separate();
+                writeMove(draft, tree.from(child), tree.to(child));
+            }
+            place = goOn(place, child);
+        }
         visit(stay);
         if (draft.hasSpilled()) {
             throw new IllegalStateException("there would be more than 2000 bytes");
@@ -535,37 +546,29 @@ public final class BoardNotation {
         }
     }
 
-    /**
-     * Writes the game from node 0 on, which is the present node before and behind.
-     * It is a loop, since a game may be as deep as it has nodes; place is that of the continuation
-     * of the present node that comes next, with the main one at 0 and, to be gone into, behind the last.
-     */
-    private void writeTree() {
-        int place = 0;
-        for (int turns = 0; turns < 4 * NODE_LIMIT && place != NONE; turns++) {
-            int count = tree.childCount(present);
-            if (count == 0) {
-                place = leaveLine();
-            } else if (place == 0) {
-                writeMoveOf(tree.child(present, 0));
-                place = 1;
-            } else if (place < count) {
-                draft.separate();
-                draft.append(OPENING);
-                int variation = tree.child(present, place);
-                writeMoveOf(variation);
-                stepDown(variation);
-                place = 0;
-            } else {
-                stepDown(tree.child(present, 0));
-                place = 0;
-            }
+    private void writeOpening(int place) {
+        if (place > 0) {
+            draft.separate();
+            draft.append(OPENING);
         }
     }
 
-    private void writeMoveOf(int node) {
-        draft.separate();
-        writeMove(draft, tree.from(node), tree.to(node));
+    /**
+     * Goes on in the tree behind the continuation at the place, whose move is written now; the place
+     * behind the last one, without a child, is that at which the main move is gone into at last.
+     * It is no recursion, since a game may be as deep as it has nodes. Returns the next place at the
+     * present node; -1 at the end of all.
+     */
+    private int goOn(int place, int child) {
+        if (place == 0 && child != NONE) {
+            return 1;
+        }
+        int below = child == NONE ? tree.child(present, 0) : child;
+        if (below == NONE) {
+            return leaveLine();
+        }
+        stepDown(below);
+        return 0;
     }
 
     /** Goes up to where the line at whose end we are began; returns what comes next there, -1 at the end of all. */
@@ -681,11 +684,20 @@ public final class BoardNotation {
 
         /** Returns the piece that was captured, which takeBack() wants. */
         int move(int from, int to) {
-            return replace(to, replace(from, NONE));
+            if (!isSquare(from) || !isSquare(to)) {
+                return NONE;
+            }
+            int taken = pieces[to];
+            pieces[to] = pieces[from];
+            pieces[from] = NONE;
+            return taken;
         }
 
         void takeBack(int from, int to, int taken) {
-            replace(from, replace(to, taken));
+            if (isSquare(from) && isSquare(to)) {
+                pieces[from] = pieces[to];
+                pieces[to] = taken;
+            }
         }
 
         boolean reaches(int from, int to) {
@@ -693,12 +705,16 @@ public final class BoardNotation {
         }
 
         private long reachedFrom(int from) {
-            if (from < 0 || from >= SQUARE_COUNT || pieces[from] == NONE) {
+            if (from < 0 || from >= SQUARE_COUNT) {
                 return 0L;
             }
-            int side = pieces[from] % 2;
-            int first = pieces[from] / 2 * STEP_LIMIT;
-            int end = first + kinds.stepCounts[pieces[from] / 2];
+            int piece = pieces[from];
+            if (piece < 0 || piece / 2 >= kinds.size) {
+                return 0L;
+            }
+            int side = piece % 2;
+            int first = piece / 2 * STEP_LIMIT;
+            int end = first + kinds.stepCounts[piece / 2];
             long reached = 0L;
             for (int step = first; step < end; step++) {
                 int dx = kinds.stepX[step];

@@ -21,7 +21,8 @@ public final class ShortFormTest {
         Due.is("feed(255, 254, 253, 252)", x.feed(255, 254, 253, 252), 5);
         Due.is("feed(7, -1, 8, -1)", x.feed(7, -1, 8, -1), 7);
         Due.is("feed(9, -1, -1, 10)", x.feed(9, -1, -1, 10), 9);
-        int[] due = {0, 255, 254, 253, 252, 7, 8, 9, 10};
+        Due.is("feed(1, 255, 255, 255)", x.feed(1, 255, 255, 255), 13);
+        int[] due = {0, 255, 254, 253, 252, 7, 8, 9, 10, 1, 255, 255, 255};
         for (int k = 0; k < due.length; k++) {
             Due.is("byteAt(" + k + ")", x.byteAt(k), due[k]);
         }
@@ -32,7 +33,7 @@ public final class ShortFormTest {
             Due.isThrown("feed(0, 0, 0, " + wrong + ")", Due.ARGUMENT, () -> x.feed(0, 0, 0, wrong));
         }
         Due.isThrown("feed(-1, 0, 0, 0)", Due.ARGUMENT, () -> x.feed(-1, 0, 0, 0));
-        Due.is("state(6)", x.state(6), 9);
+        Due.is("state(6)", x.state(6), 13);
     }
 
     private static void feedAtTheLimit() {
