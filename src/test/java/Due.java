@@ -5,6 +5,7 @@ final class Due {
     static final Class<? extends Exception> INDEX = IndexOutOfBoundsException.class;
 
     private static int wrong = 0;
+    private static String sentence = "";
 
     interface Call {
         double answer();
@@ -43,9 +44,25 @@ final class Due {
         }
     }
 
+    /** As isThrown(), and what digest() and found() tell is the same behind the call as ahead of it. */
+    static void isRefused(String call, Class<? extends Exception> want, BoardNotation x, Call body) {
+        long digest = x.digest();
+        int[] found = {x.found(0), x.found(1), x.found(2)};
+        isThrown(call, want, body);
+        isLong("digest() behind the refused " + call, x.digest(), digest);
+        for (int what = 0; what < found.length; what++) {
+            is("found(" + what + ") behind the refused " + call, x.found(what), found[what]);
+        }
+    }
+
+    /** The words of the document to which the answers from here on belong. */
+    static void sentence(String words) {
+        sentence = words;
+    }
+
     static void tell(String line) {
         wrong++;
-        System.out.println(line);
+        System.out.println(sentence.isEmpty() ? line : "\"" + sentence + "\": " + line);
     }
 
     static boolean isAnyWrong() {
@@ -67,9 +84,14 @@ final class Due {
         return name.charAt(0) - 'a' + 8 * (name.charAt(1) - '1');
     }
 
+    /** Four bytes a call, since an object is used for 512 calls at most. */
     static void feed(BoardNotation x, String text) {
-        for (int k = 0; k < text.length(); k++) {
-            x.feed(text.charAt(k), -1, -1, -1);
+        for (int k = 0; k < text.length(); k += 4) {
+            int[] b = {-1, -1, -1, -1};
+            for (int i = 0; i < 4 && k + i < text.length(); i++) {
+                b[i] = text.charAt(k + i);
+            }
+            x.feed(b[0], b[1], b[2], b[3]);
         }
     }
 

@@ -166,12 +166,12 @@ public final class GameTest {
         StringBuilder due = new StringBuilder("Ra2");
         Due.play(x, "a1", "a2");
         int present = 0;
+        boolean isWhite = true;
         String white = "a1";
         String black = "h8";
         StringBuilder tail = new StringBuilder();
         for (int node = 2; node + 1 < 200; node += 2) {
             x.goTo(present);
-            boolean isWhite = x.state(0) == 0;
             String here = isWhite ? white : black;
             String file = here.substring(0, 1);
             String there = file + (here.charAt(1) == '4' ? "6" : "4");
@@ -185,37 +185,41 @@ public final class GameTest {
             Due.play(x, next, aside);
             due.append(" R").append(aside);
             tail.append(')');
+            isWhite = !isWhite;
         }
         Due.is("nodes", x.state(4), 200);
-        String text = Due.writeGame(x);
-        Due.isText("the deep game", text, due.toString() + tail);
-        long digest = x.digest();
-        Due.is("readGame() of the deep game", x.readGame(), 0);
-        Due.isText("the tape stays", Due.tape(x), text);
-        Due.is("present: the main move", x.state(3), 1);
-        x.goTo(199);
-        Due.isText("the deep game again", Due.writeGame(x), text);
-        Due.isLong("the same digest", x.digest(), digest);
+        Due.is("writeGame() of the deep game", x.writeGame(), due.length() + tail.length());
+        x.goTo(1);
+        BoardNotation y = rooks();
+        Due.is("readGame() of the deep game", Due.readGame(y, due.toString() + tail), 0);
+        Due.is("present: the main move", y.state(3), 1);
+        Due.isLong("the same game, and the same tape", x.digest(), y.digest());
+        y.goTo(199);
+        y.writeGame();
+        y.goTo(1);
+        Due.isLong("the deep game again", x.digest(), y.digest());
     }
 
     private static void readGame() {
-        BoardNotation x = rooks();
-        Due.is("readGame() of nothing", x.readGame(), 0);
-        Due.is("nodes", x.state(4), 1);
-        gameIs(x, "Ra2 Rh7 Ra3", 0, -1, 3, 4, "Ra2 Rh7 Ra3");
-        gameIs(x, "  Ra2   Rh7  ", 0, -1, 2, 3, "Ra2 Rh7");
-        gameIs(x, "    ", 0, -1, 0, 1, "");
-        gameIs(x, "Ra2(Ra3 Rh7)Rh6", 0, -1, 4, 5, "Ra2 (Ra3 Rh7) Rh6");
-        gameIs(x, "Ra2 ( Ra3 Rh7 ) Rh6", 0, -1, 4, 5, "Ra2 (Ra3 Rh7) Rh6");
-        gameIs(x, "Ra2 (Ra3 (Ra4) (Ra5) Rh7 (Rh6)) (Ra6)", 0, -1, 1, 8, "Ra2 (Ra3 Rh7 (Rh6)) (Ra4) (Ra5) (Ra6)");
-        gameIs(x, "Ra2 Rh7 (Rh6) (Rh5 Ra3) Ra8", 0, -1, 6, 7, "Ra2 Rh7 (Rh6) (Rh5 Ra3) Ra8");
-        gameIs(x, "Ra2 (Ra2 Rh7)", 0, -1, 1, 3, "Ra2 Rh7");
-        gameIs(x, "Ra2 Rh7 (Rh6) Ra8 (Ra3)", 0, -1, 4, 6, "Ra2 Rh7 (Rh6) Ra8 (Ra3)");
+        textIs("", 0, -1, 0, 1, "");
+        textIs("Ra2 Rh7 Ra3", 0, -1, 3, 4, "Ra2 Rh7 Ra3");
+        textIs("  Ra2   Rh7  ", 0, -1, 2, 3, "Ra2 Rh7");
+        textIs("    ", 0, -1, 0, 1, "");
+        textIs("Ra2(Ra3 Rh7)Rh6", 0, -1, 4, 5, "Ra2 (Ra3 Rh7) Rh6");
+        textIs("Ra2 ( Ra3 Rh7 ) Rh6", 0, -1, 4, 5, "Ra2 (Ra3 Rh7) Rh6");
+        textIs("Ra2 (Ra3 (Ra4) (Ra5) Rh7 (Rh6)) (Ra6)", 0, -1, 1, 8, "Ra2 (Ra3 Rh7 (Rh6)) (Ra4) (Ra5) (Ra6)");
+        textIs("Ra2 Rh7 (Rh6) (Rh5 Ra3) Ra8", 0, -1, 6, 7, "Ra2 Rh7 (Rh6) (Rh5 Ra3) Ra8");
+        textIs("Ra2 (Ra2 Rh7)", 0, -1, 1, 3, "Ra2 Rh7");
+        textIs("Ra2 Rh7 (Rh6) Ra8 (Ra3)", 0, -1, 4, 6, "Ra2 Rh7 (Rh6) Ra8 (Ra3)");
         BoardNotation y = rooks();
         Due.play(y, "a1", "a7");
         Due.play(y, "h8", "h2");
         gameIs(y, "Ra2", 0, -1, 1, 2, "Ra2");
         Due.is("at(a2)", y.at(Due.square("a2")), 2);
+    }
+
+    private static void textIs(String text, int error, int place, int present, int nodes, String game) {
+        gameIs(rooks(), text, error, place, present, nodes, game);
     }
 
     private static void gameIs(BoardNotation x, String text, int error, int place, int present, int nodes,
@@ -230,29 +234,28 @@ public final class GameTest {
     }
 
     private static void readGameErrors() {
-        BoardNotation x = rooks();
-        gameIs(x, "Ra2 Rh", 1, 4, 1, 2, "Ra2");
-        gameIs(x, "Ra2 Rh7x Ra3", 1, 4, 1, 2, "Ra2");
-        gameIs(x, "Ra2\nRh7", 1, 0, 0, 1, "");
-        gameIs(x, "Ra2  Qh7", 2, 5, 1, 2, "Ra2");
-        gameIs(x, "Ra2 Ra3", 3, 4, 1, 2, "Ra2");
-        gameIs(x, "Ra2 Rxh7", 6, 4, 1, 2, "Ra2");
-        gameIs(x, "Ra2 (Ra3 Rh7+)", 7, 9, 2, 3, "Ra2 (Ra3)");
-        gameIs(x, "(Ra2)", 8, 0, 0, 1, "");
-        gameIs(x, " (", 8, 1, 0, 1, "");
-        gameIs(x, ")", 8, 0, 0, 1, "");
-        gameIs(x, "Ra2 )", 8, 4, 1, 2, "Ra2");
-        gameIs(x, "Ra2)Rh7", 8, 3, 1, 2, "Ra2");
-        gameIs(x, "Ra2 (Ra3)) Rh7", 8, 9, 1, 3, "Ra2 (Ra3)");
-        gameIs(x, "Ra2 ()", 8, 5, 0, 2, "Ra2");
-        gameIs(x, "Ra2 ((Ra3", 8, 5, 0, 2, "Ra2");
-        gameIs(x, "Ra2 Rh7 ((Ra3", 8, 9, 1, 3, "Ra2 Rh7");
-        gameIs(x, "Ra2 Rh7 ( )", 8, 10, 1, 3, "Ra2 Rh7");
-        gameIs(x, "Ra2 (", 8, 5, 0, 2, "Ra2");
-        gameIs(x, "Ra2 (  ", 8, 7, 0, 2, "Ra2");
-        gameIs(x, "Ra2 (Ra3 ", 8, 9, 2, 3, "Ra2 (Ra3)");
-        gameIs(x, "Ra2 (Ra3 (Ra4)", 8, 14, 2, 4, "Ra2 (Ra3) (Ra4)");
-        gameIs(x, "Ra2 (Qa3", 2, 5, 0, 2, "Ra2");
+        textIs("Ra2 Rh", 1, 4, 1, 2, "Ra2");
+        textIs("Ra2 Rh7x Ra3", 1, 4, 1, 2, "Ra2");
+        textIs("Ra2\nRh7", 1, 0, 0, 1, "");
+        textIs("Ra2  Qh7", 2, 5, 1, 2, "Ra2");
+        textIs("Ra2 Ra3", 3, 4, 1, 2, "Ra2");
+        textIs("Ra2 Rxh7", 6, 4, 1, 2, "Ra2");
+        textIs("Ra2 (Ra3 Rh7+)", 7, 9, 2, 3, "Ra2 (Ra3)");
+        textIs("(Ra2)", 8, 0, 0, 1, "");
+        textIs(" (", 8, 1, 0, 1, "");
+        textIs(")", 8, 0, 0, 1, "");
+        textIs("Ra2 )", 8, 4, 1, 2, "Ra2");
+        textIs("Ra2)Rh7", 8, 3, 1, 2, "Ra2");
+        textIs("Ra2 (Ra3)) Rh7", 8, 9, 1, 3, "Ra2 (Ra3)");
+        textIs("Ra2 ()", 8, 5, 0, 2, "Ra2");
+        textIs("Ra2 ((Ra3", 8, 5, 0, 2, "Ra2");
+        textIs("Ra2 Rh7 ((Ra3", 8, 9, 1, 3, "Ra2 Rh7");
+        textIs("Ra2 Rh7 ( )", 8, 10, 1, 3, "Ra2 Rh7");
+        textIs("Ra2 (", 8, 5, 0, 2, "Ra2");
+        textIs("Ra2 (  ", 8, 7, 0, 2, "Ra2");
+        textIs("Ra2 (Ra3 ", 8, 9, 2, 3, "Ra2 (Ra3)");
+        textIs("Ra2 (Ra3 (Ra4)", 8, 14, 2, 4, "Ra2 (Ra3) (Ra4)");
+        textIs("Ra2 (Qa3", 2, 5, 0, 2, "Ra2");
         BoardNotation y = Due.chess();
         Due.put(y, "e1", 0, 0);
         Due.put(y, "e2", 2, 0);
@@ -264,67 +267,41 @@ public final class GameTest {
         gameIs(y, "Kf2 Re7 Nfd2", 0, -1, 3, 4, "Kf2 Re7 Nfd2");
     }
 
-    private static String shuttle(int moves) {
-        String[] words = {"Ra2", "Rh7", "Ra1", "Rh8"};
-        StringBuilder text = new StringBuilder();
-        for (int k = 0; k < moves; k++) {
-            text.append(k == 0 ? "" : " ").append(words[k % 4]);
-        }
-        return text.toString();
-    }
-
     private static void readGameAtTheLimit() {
-        BoardNotation x = rooks();
-        gameIs(x, shuttle(199), 0, -1, 199, 200, shuttle(199));
-        BoardNotation y = rooks();
-        gameIs(y, shuttle(200), 9, 796, 199, 200, shuttle(199));
-        x.clear();
-        Due.is("an old node at the limit", feedWhole(x, shuttle(199) + " (Ra1) (Ra1(Ra3)) Rh7"), 9);
-        Due.is("found(0)", x.found(0), shuttle(199).length() + 12);
-        Due.is("present: the node above the one that was not made", x.state(3), 198);
-        BoardNotation z = rooks();
-        Due.is("the errors of a word go ahead", feedWhole(z, shuttle(199) + " Rh1+"), 7);
+        limitIs("", 0, -1, 199);
+        limitIs(" Rh8", 9, 796, 199);
+        limitIs(" (Ra1) (Ra1(Ra3)) Rh7", 9, Boards.lineText(199).length() + 12, 198);
+        limitIs(" Rh1+", 7, Boards.lineText(199).length() + 1, 199);
     }
 
-    private static int feedWhole(BoardNotation x, String text) {
-        x.empty();
-        for (int k = 0; k < text.length(); k += 4) {
-            int[] b = {-1, -1, -1, -1};
-            for (int i = 0; i < 4 && k + i < text.length(); i++) {
-                b[i] = text.charAt(k + i);
-            }
-            x.feed(b[0], b[1], b[2], b[3]);
-        }
-        return x.readGame();
+    /** Reads a game of 200 nodes and more. */
+    private static void limitIs(String more, int error, int place, int present) {
+        BoardNotation x = rooks();
+        Due.is("readGame() of 199 moves and \"" + more + "\"", Due.readGame(x, Boards.lineText(199) + more), error);
+        Due.is("found(0)", x.found(0), place);
+        Due.is("present", x.state(3), present);
+        Due.is("nodes", x.state(4), 200);
+        x.goTo(199);
+        Due.is("writeGame()", x.writeGame(), Boards.lineText(199).length());
+        BoardNotation y = rooks();
+        Due.feed(y, Boards.lineText(199));
+        y.readGame();
+        Due.isLong("the same 199 moves", x.digest(), y.digest());
     }
 
     /** As many brackets open at once as the tape has room for: each opens a move that is played already. */
     private static void readManyBrackets() {
-        BoardNotation x = rooks();
-        StringBuilder text = new StringBuilder("Ra2");
-        for (int k = 0; k < 499; k++) {
-            text.append("(Ra2");
-        }
-        Due.is("readGame() of 499 brackets", feedWhole(x, text.toString()), 8);
+        BoardNotation x = Boards.columns();
+        Due.is("readGame() of 499 brackets", Due.readGame(x, "Ra2" + "(Ra2".repeat(499)), 8);
         Due.is("found(0)", x.found(0), 1999);
         Due.is("nodes", x.state(4), 2);
-        text.setLength(0);
-        text.append("Ra2");
-        for (int k = 0; k < 399; k++) {
-            text.append("(Ra3");
-        }
-        for (int k = 0; k < 399; k++) {
-            text.append(")");
-        }
-        BoardNotation y = rooks();
-        Due.is("readGame() of 399 brackets, closed", feedWhole(y, text.toString()), 0);
+        BoardNotation y = Boards.columns();
+        Due.is("readGame() of 399 brackets, closed",
+                Due.readGame(y, "Ra2" + "(Ra3".repeat(399) + ")".repeat(399)), 0);
         Due.is("present", y.state(3), 1);
         Due.is("nodes", y.state(4), 3);
-        BoardNotation z = rooks();
-        for (int k = 0; k < 500; k++) {
-            z.feed('(', '(', '(', '(');
-        }
-        Due.is("readGame() of nothing but brackets", z.readGame(), 8);
+        BoardNotation z = Boards.columns();
+        Due.is("readGame() of nothing but brackets", Due.readGame(z, "(".repeat(2000)), 8);
         Due.is("found(0)", z.found(0), 0);
     }
 
@@ -372,6 +349,7 @@ public final class GameTest {
         Due.isLong("digest() of a new object", new BoardNotation().digest(), digestOf(new BoardNotation()));
         BoardNotation x = variations();
         Due.isLong("digest() of variations", x.digest(), digestOf(x));
+        x = variations();
         x.promote(5);
         x.goTo(3);
         x.writeGame();

@@ -200,27 +200,19 @@ public final class PositionTest {
         Due.put(x, "a1", 1, 0);
         Due.put(x, "h8", 1, 1);
         for (int node = 1; node < 200; node++) {
-            Due.is("play to node " + node, shuttle(x, node), node);
+            Due.is("play to node " + node, Boards.shuttle(x, node), node);
         }
         Due.is("nodes", x.state(4), 200);
         Due.is("moves", x.node(199, 3), 199);
-        Due.isThrown("play of node 200", Due.STATE, () -> shuttle(x, 200));
+        Due.isThrown("play of node 200", Due.STATE, () -> Boards.shuttle(x, 200));
         Due.is("present stays", x.state(3), 199);
         Due.is("nodes stay", x.state(4), 200);
         Due.is("the piece stays", x.at(Due.square("h7")), 3);
         x.goTo(100);
-        Due.is("an old node at the limit", shuttle(x, 101), 101);
+        Due.is("an old node at the limit", Boards.shuttle(x, 101), 101);
         Due.is("reason() at the limit", Due.reason(x, "h8", "h2"), 0);
         Due.isThrown("another new node at the limit", Due.STATE, () -> Due.play(x, "h8", "h2"));
         x.clear();
         Due.is("behind clear()", Due.play(x, "a1", "a3"), 1);
-    }
-
-    /** The move to this node of a game in which two rooks go to and fro. */
-    private static int shuttle(BoardNotation x, int node) {
-        boolean away = (node - 1) / 2 % 2 == 0;
-        String near = node % 2 == 1 ? "a1" : "h8";
-        String far = node % 2 == 1 ? "a2" : "h7";
-        return away ? Due.play(x, near, far) : Due.play(x, far, near);
     }
 }

@@ -2,8 +2,9 @@ import java.lang.management.ManagementFactory;
 
 /** All calls of a run live in one room, so no call makes an object: the dearest ones, many times over. */
 public final class RoomTest {
-    private static final int TIMES = 200;
-    private static final long ROOM = 100_000;
+    /** With the set-up, no more than the 512 calls for which an object is used. */
+    private static final int TIMES = 20;
+    private static final long ROOM = 2_000;
 
     public static void main(String[] args) {
         BoardNotation x = Due.chess();
@@ -11,9 +12,8 @@ public final class RoomTest {
         Due.put(x, "h8", 1, 1);
         Due.put(x, "e1", 0, 0);
         Due.put(x, "e8", 0, 1);
-        String[][] moves = {{"a1", "a2"}, {"h8", "h7"}, {"a2", "a1"}, {"h7", "h8"}};
         for (int node = 1; node < 200; node++) {
-            Due.play(x, moves[(node - 1) % 4][0], moves[(node - 1) % 4][1]);
+            Boards.shuttle(x, node);
         }
         calls(x);
         com.sun.management.ThreadMXBean threads = (com.sun.management.ThreadMXBean) ManagementFactory.getThreadMXBean();

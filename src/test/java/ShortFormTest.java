@@ -67,51 +67,51 @@ public final class ShortFormTest {
     private static void formErrors() {
         String[] texts = {"", "K", "Ka", "K1", "Kx", "Kax", "K1x", "Ka1x", "Kab", "K1b", "Ka1b", "Kxa", "Kaxb",
             "K1xb", "Ka1xb"};
-        BoardNotation x = Due.chess();
         for (String text : texts) {
-            formError(x, text, text.length());
+            formError(text, text.length());
         }
-        formError(x, "k", 0);
-        formError(x, "@a1", 0);
-        formError(x, "[a1", 0);
-        formError(x, "a1", 0);
-        formError(x, " Ka1", 0);
-        formError(x, "K a1", 1);
-        formError(x, "KK", 1);
-        formError(x, "Ki1", 1);
-        formError(x, "K`1", 1);
-        formError(x, "K0", 1);
-        formError(x, "K9", 1);
-        formError(x, "K+", 1);
-        formError(x, "Ka0", 2);
-        formError(x, "Ka9", 2);
-        formError(x, "K11", 2);
-        formError(x, "K1+", 2);
-        formError(x, "Ka+", 2);
-        formError(x, "Kxx", 2);
-        formError(x, "Kx1", 2);
-        formError(x, "Kabc", 3);
-        formError(x, "Kab+", 3);
-        formError(x, "Kaxx", 3);
-        formError(x, "Ka11", 3);
-        formError(x, "Ka1 ", 3);
-        formError(x, "K1ab", 3);
-        formError(x, "Ka1++", 4);
-        formError(x, "Ka1#+", 4);
-        formError(x, "Ka1+#", 4);
-        formError(x, "Ka1x1", 4);
-        formError(x, "Ka1bb", 4);
-        formError(x, "Kab1x", 4);
-        formError(x, "Kxb1x", 4);
-        formError(x, "Ka1b2c", 5);
-        formError(x, "Ka1b2x", 5);
-        formError(x, "Ka1xb2a", 6);
-        formError(x, "Ka1xb2+ ", 7);
-        formError(x, "Qa", 2);
-        formError(x, "Ka1" + (char) 225, 3);
+        formError("k", 0);
+        formError("@a1", 0);
+        formError("[a1", 0);
+        formError("a1", 0);
+        formError(" Ka1", 0);
+        formError("K a1", 1);
+        formError("KK", 1);
+        formError("Ki1", 1);
+        formError("K`1", 1);
+        formError("K0", 1);
+        formError("K9", 1);
+        formError("K+", 1);
+        formError("Ka0", 2);
+        formError("Ka9", 2);
+        formError("K11", 2);
+        formError("K1+", 2);
+        formError("Ka+", 2);
+        formError("Kxx", 2);
+        formError("Kx1", 2);
+        formError("Kabc", 3);
+        formError("Kab+", 3);
+        formError("Kaxx", 3);
+        formError("Ka11", 3);
+        formError("Ka1 ", 3);
+        formError("K1ab", 3);
+        formError("Ka1++", 4);
+        formError("Ka1#+", 4);
+        formError("Ka1+#", 4);
+        formError("Ka1x1", 4);
+        formError("Ka1bb", 4);
+        formError("Kab1x", 4);
+        formError("Kxb1x", 4);
+        formError("Ka1b2c", 5);
+        formError("Ka1b2x", 5);
+        formError("Ka1xb2a", 6);
+        formError("Ka1xb2+ ", 7);
+        formError("Qa", 2);
+        formError("Ka1" + (char) 225, 3);
     }
 
-    private static void formError(BoardNotation x, String text, int place) {
+    private static void formError(String text, int place) {
+        BoardNotation x = Due.chess();
         Due.is("read() of \"" + text + "\"", Due.read(x, text), 1);
         Due.is("found(0) of \"" + text + "\"", x.found(0), place);
         Due.isText("the tape behind read()", Due.tape(x), text);
@@ -151,6 +151,7 @@ public final class ShortFormTest {
         readIs(x, "Rxa3", 5);
         readIs(x, "R1xa3", 6);
         readIs(x, "Nxa3", 6);
+        x = crowd();
         readIs(x, "Rc5+", 7);
         readIs(x, "Rc5#", 7);
         readIs(x, "Rh5", 7);
