@@ -13,6 +13,7 @@ public final class BoardBoundaryTest {
         emptyOrOfASide();
         sideThatMovesFirst();
         numbersOfKinds();
+        lettersAndStepsOfKinds();
         widthsOfSteps();
         reaches();
         stepsOfSideOne();
@@ -22,10 +23,12 @@ public final class BoardBoundaryTest {
         onTheBoard();
         noPieceOfItsOwnSide();
         captured();
+        capturedAgainAndAgain();
         legalBesideAttackedSquares();
         legalBehindTheMove();
         legalWithManyOrNoRoyals();
         check();
+        checkOfSeveralRoyals();
         Due.end();
     }
 
@@ -181,6 +184,27 @@ public final class BoardBoundaryTest {
             Due.is("the letter of kind " + kind, x.byteAt(0), letters.charAt(kind));
             Due.is("read() of kind " + kind, x.read(), 0);
             Due.is("found(1)", x.found(1), 8 * kind);
+        }
+    }
+
+    private static void lettersAndStepsOfKinds() {
+        Due.sentence("A kind has a letter, 65 to 90 (a byte; no two kinds have the same), and at most 8 steps");
+        BoardNotation x = new BoardNotation();
+        for (int kind = 0; kind < 6; kind++) {
+            int letter = kind % 2 == 0 ? 65 + kind : 91 - kind;
+            x.addKind(letter);
+            Due.isThrown("addKind(" + letter + ") again", Due.ARGUMENT, () -> x.addKind(letter));
+            int last = kind;
+            for (int step = 0; step < 8; step++) {
+                Due.is("the steps of kind " + kind, x.addStep(kind, step % 4, 1 - step / 4 * 2, 1), step + 1);
+            }
+            Due.isThrown("a ninth step of kind " + kind, Due.STATE, () -> x.addStep(last, -1, 1, 1));
+        }
+        for (int kind = 0; kind < 6; kind++) {
+            x.put(27, kind, 0);
+            Due.is("the moves of kind " + kind, x.state(2), 8);
+            x.write(27, 27 + 8);
+            Due.is("the letter of kind " + kind, x.byteAt(0), kind % 2 == 0 ? 65 + kind : 91 - kind);
         }
     }
 
@@ -356,6 +380,32 @@ public final class BoardBoundaryTest {
         Due.is("a move to an empty square captures nothing", x.at(24), 3);
     }
 
+    /** Each move captures on b1, and each is taken back. */
+    private static void capturedAgainAndAgain() {
+        Due.sentence("a piece of the other side there is captured");
+        BoardNotation x = new BoardNotation();
+        for (int kind = 0; kind < 6; kind++) {
+            x.addKind('A' + kind);
+        }
+        int[] from = {0, 2, 3, 4};
+        for (int k = 0; k < from.length; k++) {
+            x.addStep(k + 1, 1 - from[k], 0, 1);
+            x.put(from[k], k + 1, k % 2);
+        }
+        x.put(1, 5, 1);
+        int[] there = {11, 2, 5, 6, 9};
+        for (int k = 0; k < from.length; k++) {
+            Due.is("play() of capture " + k, x.play(from[k], 1), k + 1);
+        }
+        for (int node : new int[] {4, 3, 2, 1, 0, 4, 2, 3, 0, 1}) {
+            x.goTo(node);
+            Due.is("at(1) at node " + node, x.at(1), there[node]);
+            for (int k = 0; k < from.length; k++) {
+                Due.is("at(" + from[k] + ") at node " + node, x.at(from[k]), k < node ? -1 : there[k + 1]);
+            }
+        }
+    }
+
     /** Rook e8 of side 1 looks down the e file. */
     private static BoardNotation watched() {
         BoardNotation x = Due.chess();
@@ -454,5 +504,25 @@ public final class BoardBoundaryTest {
         Due.put(x, "a8", 1, 0);
         Due.put(x, "e8", -1, 1);
         Due.is("the other side is in check, not the one whose turn it is", x.state(1), 0);
+    }
+
+    private static void checkOfSeveralRoyals() {
+        Due.sentence("A side is in check, if a piece of the other side reaches a square with a royal piece of it.");
+        for (String reached : new String[] {"a1", "d1", "h1"}) {
+            BoardNotation x = Due.chess();
+            for (String royal : new String[] {"a1", "d1", "h1"}) {
+                Due.put(x, royal, 0, 0);
+            }
+            Due.is("none is reached", x.state(1), 0);
+            Due.put(x, reached.charAt(0) + "8", 1, 1);
+            Due.is("the one on " + reached + " is reached", x.state(1), 1);
+        }
+        BoardNotation x = Due.chess();
+        Due.put(x, "e8", 0, 1);
+        Due.put(x, "e1", 1, 0);
+        Due.is("a royal piece of the other side is reached", x.state(1), 0);
+        Due.put(x, "e1", 0, 0);
+        Due.put(x, "e2", 0, 1);
+        Due.is("a royal piece reaches it", x.state(1), 1);
     }
 }

@@ -2,6 +2,7 @@
 public final class GameReadingBoundaryTest {
     public static void main(String[] args) {
         beginsAnew();
+        beginsAnewWithoutOpenBrackets();
         nothingToRead();
         blanksAsManyAsItLikes();
         noBlankBesideABracket();
@@ -69,6 +70,21 @@ public final class GameReadingBoundaryTest {
         Due.is("at(a1) behind an error at the first byte", z.at(0), 0);
         BoardNotation q = Boards.line(199);
         gameIs(q, Boards.lineText(50), 0, -1, 50, 51);
+    }
+
+    private static void beginsAnewWithoutOpenBrackets() {
+        Due.sentence("It begins anew at node 0, without other nodes.");
+        for (String open : new String[] {"Ra2 (Ra3", "Ra2 (Ra3 (Ra4", "Ra2 (", "Ra2 (Ra3 ?", "Ra2 (()"}) {
+            BoardNotation x = Boards.columns();
+            Due.is("readGame() of \"" + open + "\"", Due.readGame(x, open), open.endsWith("?") ? 1 : 8);
+            gameIs(x, "Ra2 Rh7", 0, -1, 2, 3);
+            Due.readGame(x, open);
+            gameIs(x, "Ra2 )", 8, 4, 1, 2);
+            Due.readGame(x, open);
+            gameIs(x, "Ra2 (Ra3))", 8, 9, 1, 3);
+            Due.readGame(x, open);
+            gameIs(x, "", 0, -1, 0, 1);
+        }
     }
 
     private static void nothingToRead() {

@@ -9,6 +9,7 @@ public final class TreeBoundaryTest {
 
     public static void main(String[] args) {
         nodeZeroIsTheFirstPosition();
+        putAndAddedOnlyAtFirst();
         nodesInTheOrderMade();
         continuationsInTheOrderMade();
         nodeAnswers();
@@ -74,6 +75,22 @@ public final class TreeBoundaryTest {
         x.play(0, 16);
         x.goTo(0);
         Due.is("at(8) of it", x.at(8), -1);
+    }
+
+    private static void putAndAddedOnlyAtFirst() {
+        Due.sentence("Pieces can be put and kinds be added only as long as there is no other node.");
+        BoardNotation x = Boards.columns();
+        Due.is("addKind() without other nodes", x.addKind('B'), 1);
+        Due.is("put() without other nodes", x.put(4, 1, 0), -1);
+        x.play(0, 8);
+        for (int node = 1; node >= 0; node--) {
+            x.goTo(node);
+            Due.isRefused("addKind() at node " + node + " of two", Due.STATE, x, () -> x.addKind('C'));
+            Due.isRefused("put() at node " + node + " of two", Due.STATE, x, () -> x.put(5, 1, 0));
+        }
+        x.clear();
+        Due.is("addKind() without other nodes again", x.addKind('C'), 2);
+        Due.is("put() without other nodes again", x.put(5, 2, 0), -1);
     }
 
     private static void nodesInTheOrderMade() {

@@ -12,6 +12,7 @@ public final class WritingBoundaryTest {
         captureSign();
         checkWithLegalMoves();
         checkWithoutLegalMoves();
+        signsOfSideOne();
         noCheck();
         longestForm();
         writeInThePlaceOfAll();
@@ -162,6 +163,30 @@ public final class WritingBoundaryTest {
         x.clear();
         Due.put(x, "c3", 3, 1);
         Due.isText("another piece with moves that do not help", Due.write(x, "b1", "b8"), "Rb8#");
+    }
+
+    private static void signsOfSideOne() {
+        Due.sentence("then +(43), if the other side is in check behind it and has legal moves, or # (35), if it is in check"
+                + " and has none");
+        BoardNotation x = Due.chess();
+        Due.put(x, "a1", 0, 0);
+        Due.put(x, "d4", 3, 0);
+        Due.put(x, "h2", 1, 1);
+        Due.put(x, "g8", 1, 1);
+        Due.isText("side 0 gives no check", Due.write(x, "d4", "d5"), "Pd5");
+        Due.play(x, "d4", "d5");
+        Due.isText("a check with one legal move", Due.write(x, "g8", "a8"), "Ra8+");
+        Due.is("read() of it", x.read(), 0);
+        Due.is("read() without +", Due.read(x, "Ra8"), 7);
+        Due.is("read() with #", Due.read(x, "Ra8#"), 7);
+        Due.isText("a check with no legal move", Due.write(x, "g8", "g1"), "Rg1#");
+        Due.is("read() of it", x.read(), 0);
+        Due.is("read() with +", Due.read(x, "Rg1+"), 7);
+        Due.isText("no check", Due.write(x, "g8", "f8"), "Rf8");
+        Due.play(x, "g8", "g1");
+        Due.is("the legal moves", x.state(2), 0);
+        Due.isText("the game", Due.writeGame(x), "Pd5 Rg1#");
+        Due.is("readGame()", x.readGame(), 0);
     }
 
     private static void noCheck() {
