@@ -534,8 +534,8 @@ public final class BoardNotation {
             if (square != from && board.pieceOn(square) == piece
                     && board.reaches(square, to) && board.keepsRoyalsSafe(square, to)) {
                 others = true;
-                sameFile |= square % EDGE == from % EDGE;
-                sameRank |= square / EDGE == from / EDGE;
+                sameFile = sameFile || square % EDGE == from % EDGE;
+                sameRank = sameRank || square / EDGE == from / EDGE;
             }
         }
         if (others && (!sameFile || sameRank)) {
