@@ -131,6 +131,12 @@ public final class PositionBoundaryTest {
         Due.is("another piece from another square", x.state(2), 2);
         x.put(8, 0, 0);
         Due.is("another piece with moves of its own", x.state(2), 7);
+        BoardNotation y = Boards.columns();
+        y.addStep(0, 1, 0, 1);
+        y.addStep(0, -1, 0, 1);
+        Due.is("one piece", y.state(2), 8);
+        y.put(2, 0, 0);
+        Due.is("two pieces, which share a target", y.state(2), 17);
     }
 
     private static void stateOfNodes() {
